@@ -27,7 +27,7 @@ public final class ModelTest {
     private void run(int seed, int least, int most, int length) {
         w = between(least, most);
         h = between(least, most);
-        answer("house", house.house(w, h), model.house(w, h));
+        answer("house " + w + " " + h, house.house(w, h), model.house(w, h));
         furnish(seed);
         for (int i = 0; i < length && !DUE.anyWrong(); i++) {
             if (random.nextInt(6) == 0) change();
@@ -48,6 +48,15 @@ public final class ModelTest {
         int hx = random.nextInt(3), hy = random.nextInt(3);
         answer("hold " + hx + " " + hy, house.hold(hx, hy), model.hold(hx, hy));
         for (int i = between(0, 5); i > 0; i--) wall();
+        ends();
+    }
+
+    /** Another house for the same load, most often with a thing or two in it. */
+    private void move() {
+        w = between(1, Math.min(20, w + 2));
+        h = between(1, Math.min(20, h + 2));
+        answer("house " + w + " " + h, house.house(w, h), model.house(w, h));
+        for (int i = between(0, 2); i > 0; i--) wall();
         ends();
     }
 
@@ -91,6 +100,7 @@ public final class ModelTest {
             case 15: answer("hold" + args, house.hold(d, e), model.hold(d, e)); break;
             case 16: if (random.nextInt(3) == 0) load(d - 1); break;
             case 17: wall(); break;
+            case 18: if (random.nextInt(4) == 0) move(); break;
             default: ends();
         }
         answer("digest", house.digest(), model.digest());

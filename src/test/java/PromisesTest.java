@@ -502,6 +502,11 @@ public final class PromisesTest {
         is("free(2, 1, 3)", p.free(2, 1, 3), 0);
         is("free(19, 19, 3)", p.free(19, 19, 3), 1);
         is("free(19, 20, 3)", p.free(19, 20, 3), 0);
+        p.house(5, 5);
+        is("a smaller house: its topmost row", p.free(3, 4, 0), 1);
+        is("a smaller house: beyond it upward", p.free(3, 5, 0), 0);
+        is("a smaller house: beyond it along", p.free(4, 4, 0), 0);
+        p.house(20, 20);
         wall(p, false, 10, 10, 1, 1);
         is("one of its squares on a thing", p.free(11, 12, 0), 0);
         is("a gap of it on a thing", p.free(10, 11, 0), 1);

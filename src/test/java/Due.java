@@ -15,6 +15,10 @@ final class Due {
         System.out.println(test + ": " + call + " answered " + got + ", due is " + want);
     }
 
+    void same(String call, String got, String want) {
+        holds(call + " answered " + got + ", due is " + want + ": so", got.equals(want));
+    }
+
     void holds(String what, boolean so) {
         is(what, so ? 1 : 0, 1);
     }

@@ -52,41 +52,8 @@ public final class PromisesTest {
         DUE.is(call, got, want);
     }
 
-    /** A house with a load of one row of squares, held at its corner (0, 0). */
-    private static PianoHouse withLoad(int w, int h, int bits) {
-        PianoHouse p = new PianoHouse();
-        p.house(w, h);
-        p.rows(1);
-        p.row(0, bits);
-        return p;
-    }
-
-    private static int wall(PianoHouse p, boolean door, int x, int y, int w, int h) {
-        int t = p.thing(door);
-        p.fill(t, x, y, w, h);
-        return t;
-    }
-
-    private static void drafted(PianoHouse p, String steps) {
-        for (int i = 0; i < steps.length(); i++) p.draft(steps.charAt(i) - '0');
-    }
-
-    private static String wayText(PianoHouse p) {
-        int length = p.way();
-        if (length < 0) return "none";
-        StringBuilder text = new StringBuilder();
-        for (int i = 0; i < length; i++) text.append(p.step(i));
-        return text.toString();
-    }
-
     private static void isText(String call, String got, String want) {
-        is(call + " = " + got + ", due is " + want + ": the same", got.equals(want) ? 1 : 0, 1);
-    }
-
-    private static long digestOf(int... values) {
-        long h = 17;
-        for (int v : values) h = 31 * h + v;
-        return h;
+        DUE.same(call, got, want);
     }
 
     private static void constants() {
@@ -107,7 +74,7 @@ public final class PromisesTest {
         is("new: load(3)", p.load(3), 0);
         is("new: open(0, 0)", p.open(0, 0), 1);
         is("new: open(1, 0)", p.open(1, 0), BAD);
-        is("new: digest", p.digest(), digestOf(1, 1, NONE, 0, 0, 0, 0, 0, 0, 0, 0));
+        is("new: digest", p.digest(), Built.digestOf(1, 1, NONE, 0, 0, 0, 0, 0, 0, 0, 0));
         is("new: finding", p.finding(), 0);
         is("new: step(0)", p.step(0), NONE);
         is("new: count(0)", p.count(0), NONE);
@@ -118,7 +85,7 @@ public final class PromisesTest {
         is("house(20, 20)", p.house(20, 20), 400);
         is("house(1, 20)", p.house(1, 20), 20);
         is("house(3, 2)", p.house(3, 2), 6);
-        wall(p, true, 0, 0, 2, 2);
+        Built.wall(p, true, 0, 0, 2, 2);
         p.out(0, true);
         p.end(false, 1, 1, 1);
         p.end(true, 2, 2, 2);
@@ -133,7 +100,7 @@ public final class PromisesTest {
         is("many(2) behind house", p.many(2), 0);
         is("many(3) behind house", p.many(3), 0);
         is("undo behind house", p.undo(), STATE);
-        is("digest behind house", p.digest(), digestOf(2, 1, NONE, NONE, 0, 0, 0, 0, 0, 0, 0, 0));
+        is("digest behind house", p.digest(), Built.digestOf(2, 1, NONE, NONE, 0, 0, 0, 0, 0, 0, 0, 0));
         is("thing behind house", p.thing(true), 0);
         is("out behind house", p.out(0, false), 0);
         is("fill behind house", p.fill(0, 0, 0, 1, 1), 1);
@@ -192,8 +159,8 @@ public final class PromisesTest {
     private static void clear() { // 5
         PianoHouse p = new PianoHouse();
         p.house(3, 2);
-        wall(p, false, 0, 0, 2, 2);
-        wall(p, false, 0, 0, 3, 1);
+        Built.wall(p, false, 0, 0, 2, 2);
+        Built.wall(p, false, 0, 0, 3, 1);
         is("clear", p.clear(0, 1, 1), 1);
         is("clear again", p.clear(0, 1, 1), 0);
         is("clear where it is not", p.clear(0, 2, 0), 0);
@@ -210,8 +177,8 @@ public final class PromisesTest {
     private static void out() { // 6
         PianoHouse p = new PianoHouse();
         p.house(2, 2);
-        wall(p, true, 0, 0, 1, 1);
-        wall(p, false, 1, 1, 1, 1);
+        Built.wall(p, true, 0, 0, 1, 1);
+        Built.wall(p, false, 1, 1, 1, 1);
         is("out", p.out(0, true), 0);
         is("open where the door was", p.open(0, 0), 1);
         is("out again", p.out(0, true), 1);
@@ -256,7 +223,7 @@ public final class PromisesTest {
         p.rows(3);
         p.hold(1, 2);
         is("undo of fill alone", p.undo(), 1);
-        is("undo leaves the rest", p.digest(), digestOf(4, 3, NONE, NONE, NONE, NONE, NONE, NONE, NONE, NONE, NONE,
+        is("undo leaves the rest", p.digest(), Built.digestOf(4, 3, NONE, NONE, NONE, NONE, NONE, NONE, NONE, NONE, NONE,
             NONE, NONE, NONE, 0, 0, NONE, NONE, NONE, 1, 2, 2, 2, 2, 0, 0, 0));
     }
 
@@ -285,8 +252,8 @@ public final class PromisesTest {
     private static void openAndOn() { // 8, 9
         PianoHouse p = new PianoHouse();
         p.house(3, 2);
-        wall(p, true, 0, 0, 2, 1);
-        wall(p, false, 1, 0, 2, 1);
+        Built.wall(p, true, 0, 0, 2, 1);
+        Built.wall(p, false, 1, 0, 2, 1);
         is("on a door alone", p.on(0, 0), 0);
         is("on two: the least", p.on(1, 0), 0);
         is("on the other", p.on(2, 0), 1);
@@ -426,7 +393,7 @@ public final class PromisesTest {
     }
 
     private static void free() { // 17
-        PianoHouse p = withLoad(3, 2, 3);
+        PianoHouse p = Built.withLoad(3, 2, 3);
         is("free(0, 0, 0)", p.free(0, 0, 0), 1);
         is("free(1, 1, 0)", p.free(1, 1, 0), 1);
         is("free(2, 0, 0)", p.free(2, 0, 0), 0);
@@ -439,7 +406,7 @@ public final class PromisesTest {
         is("free(1, 1, 2)", p.free(1, 1, 2), 0);
         is("free(0, 2, 3): on x 0, down", p.free(0, 2, 3), 1);
         is("free(0, 1, 3)", p.free(0, 1, 3), 0);
-        int t = wall(p, false, 1, 0, 1, 1);
+        int t = Built.wall(p, false, 1, 0, 1, 1);
         is("free(0, 0, 0) with a thing", p.free(0, 0, 0), 0);
         is("free(0, 1, 0) beside it", p.free(0, 1, 0), 1);
         p.clear(t, 1, 0);
@@ -507,20 +474,20 @@ public final class PromisesTest {
         is("a smaller house: beyond it upward", p.free(3, 5, 0), 0);
         is("a smaller house: beyond it along", p.free(4, 4, 0), 0);
         p.house(20, 20);
-        wall(p, false, 10, 10, 1, 1);
+        Built.wall(p, false, 10, 10, 1, 1);
         is("one of its squares on a thing", p.free(11, 12, 0), 0);
         is("a gap of it on a thing", p.free(10, 11, 0), 1);
         is("the other gap", p.free(9, 11, 0), 1);
     }
 
     private static void turning() { // 18
-        PianoHouse p = withLoad(6, 6, 3);
+        PianoHouse p = Built.withLoad(6, 6, 3);
         // Held at a corner: farthest 5, so all squares within the root of 5: three each way but the corners.
         is("farthest", p.load(2), 5);
         is("turning(3, 3)", p.turning(3, 3), 1);
         is("turning(2, 3)", p.turning(2, 3), 0);
         is("turning(3, 4)", p.turning(3, 4), 0);
-        int t = wall(p, false, 0, 0, 1, 1);
+        int t = Built.wall(p, false, 0, 0, 1, 1);
         is("a thing at the corner, (2, 2) from the hold, is not near", p.turning(3, 3), 1);
         p.clear(t, 0, 0);
         p.fill(t, 0, 1, 1, 1);
@@ -545,18 +512,18 @@ public final class PromisesTest {
         is("turning(8, 9)", large.turning(8, 9), 0);
         is("turning(11, 11)", large.turning(11, 11), 1);
         is("turning(12, 11)", large.turning(12, 11), 0);
-        wall(large, false, 0, 9, 1, 1);
+        Built.wall(large, false, 0, 9, 1, 1);
         is("turning(9, 9) shut at its edge", large.turning(9, 9), 0);
         is("turning(10, 9) beside it", large.turning(10, 9), 1);
     }
 
     private static void kind() { // 19
-        PianoHouse p = withLoad(6, 6, 3);
+        PianoHouse p = Built.withLoad(6, 6, 3);
         is("TURNING", p.kind(3, 3, 2), 2);
         is("FREE", p.kind(0, 0, 0), 1);
         is("PLACE: free in another position alone", p.kind(0, 0, 1), 0);
         is("a corner is free in one position", p.kind(6, 6, 2), 1);
-        wall(p, false, 0, 0, 6, 6);
+        Built.wall(p, false, 0, 0, 6, 6);
         is("SHUT", p.kind(3, 3, 0), 4);
         p.clear(0, 2, 2);
         p.clear(0, 3, 2);
@@ -571,14 +538,14 @@ public final class PromisesTest {
         p.rows(1);
         is("kind: not whole", p.kind(0, 0, 0), STATE);
         is("kind: BAD first", p.kind(0, 0, 4), BAD);
-        PianoHouse one = withLoad(1, 1, 1);
+        PianoHouse one = Built.withLoad(1, 1, 1);
         is("one square fills the house: TIGHT", one.kind(0, 0, 0), 3);
         is("one square, turned", one.kind(1, 0, 1), 3);
         is("one square, elsewhere", one.kind(1, 0, 0), 0);
     }
 
     private static void steps() { // 20
-        PianoHouse p = withLoad(6, 6, 3);
+        PianoHouse p = Built.withLoad(6, 6, 3);
         is("all four", p.steps(3, 3, 0, 2), 4);
         is("TURNING is FREE", p.steps(3, 3, 0, 1), 4);
         is("TURNING is a PLACE", p.steps(3, 3, 0, 0), 4);
@@ -592,7 +559,7 @@ public final class PromisesTest {
         is("PLACE is not FREE", p.steps(0, 0, 1, 1), FINDING);
         is("PLACE is not SHUT", p.steps(0, 0, 1, 4), FINDING);
         is("UNLIKE, each", p.findings(3), 5);
-        wall(p, false, 0, 0, 6, 6);
+        Built.wall(p, false, 0, 0, 6, 6);
         is("SHUT", p.steps(3, 3, 0, 4), 0);
         is("SHUT is a PLACE", p.steps(3, 3, 0, 0), 0);
         is("SHUT is not TIGHT", p.steps(3, 3, 0, 3), FINDING);
@@ -611,9 +578,9 @@ public final class PromisesTest {
     }
 
     private static void pieces() { // 21, 22
-        PianoHouse p = withLoad(5, 5, 3);
-        wall(p, false, 0, 1, 5, 1);
-        wall(p, false, 2, 3, 1, 2);
+        PianoHouse p = Built.withLoad(5, 5, 3);
+        Built.wall(p, false, 0, 1, 5, 1);
+        Built.wall(p, false, 2, 3, 1, 2);
         is("pieces(0)", p.pieces(0), 2);
         is("the lowest is the first", p.piece(3, 0, 0), 0);
         is("behind the wall", p.piece(0, 2, 0), 1);
@@ -635,17 +602,17 @@ public final class PromisesTest {
         is("pieces: BAD first", p.pieces(4), BAD);
         is("piece: not whole", p.piece(0, 0, 0), STATE);
         is("piece: BAD first", p.piece(0, 6, 0), BAD);
-        PianoHouse upper = withLoad(4, 3, 1);
-        wall(upper, false, 1, 0, 1, 2);
-        wall(upper, false, 1, 2, 2, 1);
+        PianoHouse upper = Built.withLoad(4, 3, 1);
+        Built.wall(upper, false, 1, 0, 1, 2);
+        Built.wall(upper, false, 1, 2, 2, 1);
         is("by the least place, not the last", upper.piece(0, 2, 0), 0);
         is("by y, then x", upper.piece(3, 2, 0), 1);
         is("two", upper.pieces(0), 2);
     }
 
     private static void piecesOnTheLastLines() { // 21, 22, 23
-        PianoHouse p = withLoad(20, 20, 1);
-        wall(p, false, 0, 0, 20, 19);
+        PianoHouse p = Built.withLoad(20, 20, 1);
+        Built.wall(p, false, 0, 0, 20, 19);
         is("none but on the topmost row", p.pieces(2), 1);
         is("it starts at line 1", p.piece(1, 20, 2), 0);
         is("it ends on the last lines", p.piece(20, 20, 2), 0);
@@ -669,11 +636,11 @@ public final class PromisesTest {
     }
 
     private static void area() { // 23
-        PianoHouse p = withLoad(8, 6, 3);
+        PianoHouse p = Built.withLoad(8, 6, 3);
         is("places", p.area(0, 0, 0), 42);
         is("of these turning: x 3 to 5, y 3", p.area(0, 0, 1), 3);
         is("hem: all but x 1 to 5, y 1 to 4", p.area(0, 0, 2), 22);
-        wall(p, false, 3, 0, 1, 6);
+        Built.wall(p, false, 3, 0, 1, 6);
         is("places on the left", p.area(0, 0, 0), 12);
         is("places on the right", p.area(0, 1, 0), 18);
         is("no turning", p.area(0, 1, 1), 0);
@@ -692,13 +659,13 @@ public final class PromisesTest {
     }
 
     private static void slide() { // 24
-        PianoHouse p = withLoad(20, 20, 1);
+        PianoHouse p = Built.withLoad(20, 20, 1);
         is("slide along", p.slide(0, 0, 0, 0), 19);
         is("slide back", p.slide(19, 0, 0, 1), 19);
         is("slide up", p.slide(0, 3, 0, 2), 16);
         is("slide down", p.slide(0, 3, 0, 3), 3);
         is("slide down at once", p.slide(0, 0, 0, 3), 0);
-        wall(p, false, 7, 0, 1, 1);
+        Built.wall(p, false, 7, 0, 1, 1);
         is("slide to a thing", p.slide(2, 0, 0, 0), 4);
         is("slide from a thing", p.slide(7, 0, 0, 0), NONE);
         is("not behind it", p.slide(8, 0, 0, 1), 0);
@@ -716,23 +683,23 @@ public final class PromisesTest {
         is("end is the goal", p.end(true, 1, 0, 2), 1);
         wrongStates("no load", p);
         is("digest tells both", p.digest(),
-            digestOf(2, 3, NONE, NONE, NONE, NONE, NONE, NONE, 0, 0, 2, 3, 3, 1, 0, 2));
+            Built.digestOf(2, 3, NONE, NONE, NONE, NONE, NONE, NONE, 0, 0, 2, 3, 3, 1, 0, 2));
     }
 
     private static void wayOfFewestTurns() { // 26, 28
-        PianoHouse p = withLoad(6, 6, 3);
+        PianoHouse p = Built.withLoad(6, 6, 3);
         p.end(false, 3, 3, 0);
         p.end(true, 3, 3, 2);
-        isText("half a turn: 4 is less", wayText(p), "44");
+        isText("half a turn: 4 is less", Built.wayText(p), "44");
         is("turns", p.count(0), 2);
         is("slides", p.count(1), 0);
         p.end(true, 3, 3, 3);
-        isText("three quarters", wayText(p), "5");
+        isText("three quarters", Built.wayText(p), "5");
         p.end(true, 6, 3, 1);
-        isText("turned, then along", wayText(p), "4000");
+        isText("turned, then along", Built.wayText(p), "4000");
         is("slides", p.count(1), 1);
         p.end(false, 1, 3, 0);
-        isText("along, turned, along", wayText(p), "004000");
+        isText("along, turned, along", Built.wayText(p), "004000");
         is("a turn parts slides", p.count(1), 2);
         is("turns", p.count(0), 1);
         p.end(true, 1, 3, 0);
@@ -746,8 +713,8 @@ public final class PromisesTest {
 
     /** A wall that a flat load passes only at its far end: with turns it would be nearer. */
     private static PianoHouse longWayRound() {
-        PianoHouse p = withLoad(20, 15, 3);
-        wall(p, false, 0, 7, 18, 1);
+        PianoHouse p = Built.withLoad(20, 15, 3);
+        Built.wall(p, false, 0, 7, 18, 1);
         p.clear(0, 3, 7);
         p.end(false, 4, 4, 0);
         p.end(true, 4, 11, 0);
@@ -759,18 +726,18 @@ public final class PromisesTest {
     }
 
     private static void wayOfLeastLastSteps() { // 26, 27
-        PianoHouse p = withLoad(4, 4, 1);
+        PianoHouse p = Built.withLoad(4, 4, 1);
         p.end(true, 3, 3, 0);
-        isText("last steps the least", wayText(p), "222000");
+        isText("last steps the least", Built.wayText(p), "222000");
         p.end(false, 3, 3, 0);
         p.end(true, 0, 0, 0);
-        isText("1 ahead of 3 at the end", wayText(p), "333111");
+        isText("1 ahead of 3 at the end", Built.wayText(p), "333111");
         p.end(false, 0, 3, 0);
         p.end(true, 3, 0, 0);
-        isText("0 ahead of 3 at the end", wayText(p), "333000");
+        isText("0 ahead of 3 at the end", Built.wayText(p), "333000");
         is("two slides", p.count(1), 2);
-        wall(p, false, 2, 0, 1, 1);
-        isText("3 where 0 is shut", wayText(p), "330003");
+        Built.wall(p, false, 2, 0, 1, 1);
+        isText("3 where 0 is shut", Built.wayText(p), "330003");
         is("three slides", p.count(1), 3);
         is("no turns", p.count(0), 0);
         is("step(5)", p.step(5), 3);
@@ -779,7 +746,7 @@ public final class PromisesTest {
     }
 
     private static void latestWay() { // 26, 27, 28
-        PianoHouse p = withLoad(3, 1, 1);
+        PianoHouse p = Built.withLoad(3, 1, 1);
         is("BAD ahead of NONE", p.count(2), BAD);
         p.end(true, 2, 0, 0);
         is("way", p.way(), 2);
@@ -802,13 +769,13 @@ public final class PromisesTest {
     }
 
     private static void reached() { // 29, 30
-        PianoHouse p = withLoad(6, 6, 3);
+        PianoHouse p = Built.withLoad(6, 6, 3);
         p.end(false, 0, 0, 0);
         is("all positions by the turn in the middle", p.reached(), 4 * 30);
         is("reaches another position", p.reaches(6, 6, 2), 1);
         is("reaches itself", p.reaches(0, 0, 0), 1);
         is("not what is not free", p.reaches(0, 0, 1), 0);
-        wall(p, false, 3, 3, 1, 1);
+        Built.wall(p, false, 3, 3, 1, 1);
         is("not what no turn leads to any more", p.reaches(6, 6, 2), 0);
         is("no turn any more", p.reached(), 28);
         is("reaches in this position", p.reaches(4, 5, 0), 1);
@@ -823,11 +790,11 @@ public final class PromisesTest {
     }
 
     private static void held() { // 31
-        PianoHouse p = withLoad(7, 3, 1);
-        wall(p, false, 2, 0, 1, 3);
-        wall(p, true, 2, 1, 1, 1);
-        wall(p, false, 4, 0, 1, 3);
-        wall(p, true, 2, 2, 1, 1);
+        PianoHouse p = Built.withLoad(7, 3, 1);
+        Built.wall(p, false, 2, 0, 1, 3);
+        Built.wall(p, true, 2, 1, 1, 1);
+        Built.wall(p, false, 4, 0, 1, 3);
+        Built.wall(p, true, 2, 2, 1, 1);
         p.end(true, 6, 2, 0);
         is("held by what is beside, all that are on it, not what is behind", p.held(), 1 + 2 + 8);
         p.out(3, true);
@@ -844,29 +811,29 @@ public final class PromisesTest {
     }
 
     private static void heldByTurns() { // 31
-        PianoHouse turn = withLoad(6, 6, 1);
-        wall(turn, true, 4, 4, 1, 1);
+        PianoHouse turn = Built.withLoad(6, 6, 1);
+        Built.wall(turn, true, 4, 4, 1, 1);
         turn.end(true, 0, 0, 0);
         turn.end(false, 3, 3, 0);
         is("there is a way", turn.held(), 0);
-        wall(turn, false, 0, 0, 6, 1);
-        wall(turn, false, 0, 5, 6, 1);
-        wall(turn, false, 0, 0, 1, 6);
-        wall(turn, false, 5, 0, 1, 6);
+        Built.wall(turn, false, 0, 0, 6, 1);
+        Built.wall(turn, false, 0, 5, 6, 1);
+        Built.wall(turn, false, 0, 0, 1, 6);
+        Built.wall(turn, false, 5, 0, 1, 6);
         turn.end(true, 3, 3, 1);
         is("a turn leads there", turn.held(), 0);
         turn.end(true, 0, 0, 1);
         is("held by all about", turn.held(), 31);
-        PianoHouse slot = withLoad(5, 5, 1);
-        wall(slot, false, 1, 1, 3, 3);
+        PianoHouse slot = Built.withLoad(5, 5, 1);
+        Built.wall(slot, false, 1, 1, 3, 3);
         slot.clear(0, 2, 2);
-        wall(slot, false, 0, 0, 5, 1);
+        Built.wall(slot, false, 0, 0, 5, 1);
         slot.end(false, 2, 2, 0);
         slot.end(true, 4, 4, 0);
         is("held by what forbids a turn, also", slot.held(), 1 + 2);
-        wall(slot, true, 1, 1, 1, 1);
+        Built.wall(slot, true, 1, 1, 1, 1);
         is("a door at the corner forbids the turn alone", slot.held(), 1 + 2 + 4);
-        wall(slot, true, 3, 3, 1, 1);
+        Built.wall(slot, true, 3, 3, 1, 1);
         is("one at the other corner is not near enough", slot.held(), 1 + 2 + 4);
         slot.row(0, 3);
         is("not free", slot.held(), 0);
@@ -878,7 +845,7 @@ public final class PromisesTest {
         p.rows(1);
         p.row(0, 1);
         p.hold(2, 0);
-        wall(p, false, 3, 0, 1, 1);
+        Built.wall(p, false, 3, 0, 1, 1);
         p.end(false, 4, 0, 0);
         p.end(true, 0, 0, 0);
         is("it lies at x 2", p.free(4, 0, 0), 1);
@@ -890,7 +857,7 @@ public final class PromisesTest {
         far.rows(1);
         far.row(0, 1);
         far.hold(4, 0);
-        wall(far, false, 3, 0, 1, 1);
+        Built.wall(far, false, 3, 0, 1, 1);
         far.end(false, 6, 0, 0);
         is("one square at x 2, held at 6", far.free(6, 0, 0), 1);
         is("farthest", far.load(2), 17);
@@ -898,12 +865,12 @@ public final class PromisesTest {
     }
 
     private static void doors() { // 32
-        PianoHouse p = withLoad(7, 3, 1);
-        wall(p, false, 5, 0, 1, 1);
-        wall(p, true, 1, 0, 1, 3);
-        wall(p, true, 3, 0, 1, 2);
-        wall(p, true, 3, 2, 1, 1);
-        wall(p, true, 5, 1, 1, 2);
+        PianoHouse p = Built.withLoad(7, 3, 1);
+        Built.wall(p, false, 5, 0, 1, 1);
+        Built.wall(p, true, 1, 0, 1, 3);
+        Built.wall(p, true, 3, 0, 1, 2);
+        Built.wall(p, true, 3, 2, 1, 1);
+        Built.wall(p, true, 5, 1, 1, 2);
         p.end(true, 6, 0, 0);
         is("three doors, the least of two for the second", p.doors(), 2 + 4 + 16);
         p.out(3, true);
@@ -925,20 +892,20 @@ public final class PromisesTest {
         is("many(3) as before", p.many(3), 12);
         p.rows(0);
         is("doors: not whole", p.doors(), STATE);
-        PianoHouse fewer = withLoad(5, 3, 1);
-        wall(fewer, true, 1, 0, 1, 2);
-        wall(fewer, true, 3, 0, 1, 2);
-        wall(fewer, true, 1, 2, 3, 1);
+        PianoHouse fewer = Built.withLoad(5, 3, 1);
+        Built.wall(fewer, true, 1, 0, 1, 2);
+        Built.wall(fewer, true, 3, 0, 1, 2);
+        Built.wall(fewer, true, 1, 2, 3, 1);
         fewer.end(true, 4, 0, 0);
         is("one door, though its bit is greater than those of two", fewer.doors(), 4);
-        PianoHouse own = withLoad(3, 1, 1);
-        wall(own, true, 0, 0, 1, 1);
+        PianoHouse own = Built.withLoad(3, 1, 1);
+        Built.wall(own, true, 0, 0, 1, 1);
         own.end(true, 2, 0, 0);
         is("the door on which it begins", own.doors(), 1);
     }
 
     private static void narrow() { // 33
-        PianoHouse p = withLoad(9, 9, 1);
+        PianoHouse p = Built.withLoad(9, 9, 1);
         p.end(false, 4, 4, 0);
         p.end(true, 4, 4, 0);
         is("narrow(9): the middle stays open for four", p.narrow(9), 4);
@@ -947,7 +914,7 @@ public final class PromisesTest {
         is("narrow(0)", p.narrow(0), 0);
         p.end(true, 6, 4, 0);
         is("not so far", p.narrow(9), 2);
-        wall(p, false, 2, 2, 1, 1);
+        Built.wall(p, false, 2, 2, 1, 1);
         is("one that is shut shuts what is beside, by a corner too", p.narrow(9), 1);
         p.end(true, 2, 2, 0);
         is("none with 0", p.narrow(9), NONE);
@@ -963,7 +930,7 @@ public final class PromisesTest {
         narrowOneSide(2, 4, 4, 1);
         narrowOneSide(0, 2, 1, 4);
         narrowOneSide(4, 2, 1, 4);
-        PianoHouse large = withLoad(20, 20, 1);
+        PianoHouse large = Built.withLoad(20, 20, 1);
         large.end(false, 10, 10, 0);
         large.end(true, 10, 10, 0);
         is("narrow(9) of 20 by 20", large.narrow(9), 9);
@@ -971,11 +938,11 @@ public final class PromisesTest {
 
     /** In a house of 5 by 5 what shuts comes near the middle from one side alone. */
     private static void narrowOneSide(int x, int y, int w, int h) {
-        PianoHouse p = withLoad(5, 5, 1);
+        PianoHouse p = Built.withLoad(5, 5, 1);
         p.end(false, 2, 2, 0);
         p.end(true, 2, 2, 0);
         is("from no side", p.narrow(9), 2);
-        wall(p, false, x, y, w, h);
+        Built.wall(p, false, x, y, w, h);
         is("from one side: " + x + ", " + y, p.narrow(9), 1);
     }
 
@@ -993,41 +960,41 @@ public final class PromisesTest {
     }
 
     private static void check() { // 35
-        PianoHouse p = withLoad(6, 6, 3);
+        PianoHouse p = Built.withLoad(6, 6, 3);
         p.end(false, 3, 3, 0);
         p.end(true, 4, 3, 1);
-        drafted(p, "40");
+        Built.drafted(p, "40");
         is("a way", p.check(), 1);
         is("many(4)", p.many(4), 0);
         is("empty: it ends elsewhere", p.check(), -10);
-        drafted(p, "55502301");
+        Built.drafted(p, "55502301");
         is("a way with needless steps", p.check(), 1);
-        drafted(p, "55501000");
+        Built.drafted(p, "55501000");
         is("it ends elsewhere: its length", p.check(), -18);
-        drafted(p, "5550");
+        Built.drafted(p, "5550");
         is("three turns back", p.check(), 1);
-        drafted(p, "04");
+        Built.drafted(p, "04");
         is("no turn there: the second step", p.check(), -11);
-        drafted(p, "4440000000");
+        Built.drafted(p, "4440000000");
         is("beyond the house: the sixth step", p.check(), -15);
-        drafted(p, "4");
+        Built.drafted(p, "4");
         is("it ends elsewhere: its length", p.check(), -11);
         p.end(true, 3, 3, 0);
         is("no steps lead from a place to itself", p.check(), 1);
         p.end(false, 6, 0, 0);
         p.end(true, 6, 0, 0);
         is("the beginning is not free, no steps", p.check(), -10);
-        drafted(p, "10");
+        Built.drafted(p, "10");
         is("the beginning is not free: the first step is none", p.check(), -10);
-        drafted(p, "1");
+        Built.drafted(p, "1");
         p.rows(1);
         is("check: not whole", p.check(), STATE);
         is("empty then, too", p.many(4), 0);
-        PianoHouse other = withLoad(6, 6, 3);
+        PianoHouse other = Built.withLoad(6, 6, 3);
         other.end(false, 3, 3, 0);
         other.end(true, 4, 3, 0);
         other.way();
-        drafted(other, "0");
+        Built.drafted(other, "0");
         is("check", other.check(), 1);
         is("check leaves the latest way", other.step(0), 0);
     }
@@ -1048,7 +1015,7 @@ public final class PromisesTest {
     }
 
     private static void findings() { // 37, 38
-        PianoHouse p = withLoad(2, 2, 1);
+        PianoHouse p = Built.withLoad(2, 2, 1);
         is("before any", p.finding(), 0);
         p.rows(-5);
         is("SIZE", p.finding(), 4);
@@ -1082,12 +1049,12 @@ public final class PromisesTest {
         p.hold(4, 6);
         p.end(false, 2, 1, 3);
         p.end(true, 0, 2, 1);
-        is("digest", p.digest(), digestOf(2, 2, 0, 0, NONE, 1, 1, 0, 0, 0, 5, 0, NONE, 4, 6, 2, 1, 3, 0, 2, 1));
+        is("digest", p.digest(), Built.digestOf(2, 2, 0, 0, NONE, 1, 1, 0, 0, 0, 5, 0, NONE, 4, 6, 2, 1, 3, 0, 2, 1));
         p.out(0, true);
         is("digest with the door out", p.digest(),
-            digestOf(2, 2, NONE, 1, NONE, 1, 1, 1, 0, 0, 5, 0, NONE, 4, 6, 2, 1, 3, 0, 2, 1));
+            Built.digestOf(2, 2, NONE, 1, NONE, 1, 1, 1, 0, 0, 5, 0, NONE, 4, 6, 2, 1, 3, 0, 2, 1));
         p.house(3, 1);
         p.rows(0);
-        is("digest of W and H, by y, then x", p.digest(), digestOf(3, 1, NONE, NONE, NONE, 4, 6, 0, 0, 0, 0, 0, 0));
+        is("digest of W and H, by y, then x", p.digest(), Built.digestOf(3, 1, NONE, NONE, NONE, 4, 6, 0, 0, 0, 0, 0, 0));
     }
 }

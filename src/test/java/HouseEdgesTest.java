@@ -290,6 +290,12 @@ public final class HouseEdgesTest {
         is("another thing's do not count", p.fill(1, 0, 0, 1, 1), 1);
         is("nor are they taken from it", p.fill(0, 0, 0, 1, 1), 7);
         is("all", p.fill(0, 0, 0, 4, 4), 16);
+        p.thing(true);
+        is("a door", p.fill(2, 0, 0, 2, 1), 2);
+        p.out(2, true);
+        is("a door that is out has its squares, and more", p.fill(2, 0, 3, 3, 1), 5);
+        p.out(2, false);
+        is("it has them when it is in again", p.fill(2, 0, 0, 1, 1), 5);
     }
 
     private static void fillOfWhatThereIs() { // "BAD: the THING, x, y not of THE HOUSE"

@@ -33,6 +33,7 @@ public final class ModelTest {
             if (random.nextInt(6) == 0) change();
             else if (random.nextInt(3) == 0) place();
             else way();
+            latestWay();
         }
         if (DUE.anyWrong()) System.out.println("run " + seed + ": " + String.join("; ", calls));
     }
@@ -140,6 +141,12 @@ public final class ModelTest {
         int piece = near(3), what = near(2);
         answer("area " + q + " " + piece + " " + what, house.area(q, piece, what), model.area(q, piece, what));
         answer("slide" + args, house.slide(x, y, q, k), model.slide(x, y, q, k));
+    }
+
+    /** What is told of the latest way, whatever was called since. */
+    private void latestWay() {
+        for (int i = -1; i < 4; i++) answer("step " + i, house.step(i), model.step(i));
+        for (int i = -1; i < 3; i++) answer("count " + i, house.count(i), model.count(i));
     }
 
     private void way() {

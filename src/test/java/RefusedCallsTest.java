@@ -72,6 +72,22 @@ public final class RefusedCallsTest {
         return p;
     }
 
+    /** Other ends than those of the latest way. */
+    private static PianoHouse moved() {
+        PianoHouse p = furnished();
+        Built.ends(p, 0, 2, 0, 1);
+        return p;
+    }
+
+    /** The latest way was none; now there is one. */
+    private static PianoHouse wayless() {
+        PianoHouse p = furnished();
+        p.end(true, 4, 0, 0);
+        p.way();
+        p.end(true, 4, 2, 0);
+        return p;
+    }
+
     /** Twelve things, six of them doors. */
     private static PianoHouse crowded() {
         PianoHouse p = new PianoHouse();
@@ -128,6 +144,10 @@ public final class RefusedCallsTest {
         DUE.is("furnished: draft", furnished().check(), 1);
         DUE.is("torn: not whole", torn().load(1), 0);
         DUE.is("torn: a way of before", torn().step(0), 2);
+        DUE.is("moved: a way of before", moved().step(5), 0);
+        DUE.is("moved: another way", moved().way(), 1);
+        DUE.is("wayless: none before", wayless().count(0), NONE);
+        DUE.is("wayless: a way", wayless().way(), 6);
         DUE.is("crowded: things", crowded().many(2), 12);
         DUE.is("crowded: to undo", crowded().many(3), 20);
         DUE.is("doored: things", doored().many(2), 7);
@@ -460,6 +480,8 @@ public final class RefusedCallsTest {
     private static void asked(String name, Call call) {
         refused(name + " asks", RefusedCallsTest::furnished, call, call.of(furnished()));
         refused(name + " asks, torn", RefusedCallsTest::torn, call, call.of(torn()));
+        refused(name + " asks, moved", RefusedCallsTest::moved, call, call.of(moved()));
+        refused(name + " asks, wayless", RefusedCallsTest::wayless, call, call.of(wayless()));
     }
 
     private static void asking() {

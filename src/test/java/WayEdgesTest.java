@@ -20,7 +20,9 @@ public final class WayEdgesTest {
         wayOfFewestTurnsFirst();
         wayTurnsOnFromTheLastPosition();
         wayOfTheLeastLastStep();
+        wayIsNoOtherOfAsManySteps();
         stepOfTheLatestWay();
+        stepStaysThroughOtherCalls();
         stepOfFirstAndLast();
         countOfTurnsAndSlides();
         countWithoutWay();
@@ -280,6 +282,35 @@ public final class WayEdgesTest {
         isWay("round a square: 2 ahead of 3 at the end", p, "3002");
     }
 
+    /**
+     * Two rooms in which a load of two squares may be turned in the middle alone, and a hole in the
+     * wall between them through which it comes lying: in position 0 by a step down and up again, in
+     * position 2 straight on, which saves as many steps as it needs turns.
+     */
+    private static void wayIsNoOtherOfAsManySteps() { // "the fewest STEPS 4 and 5, of these fewest STEPS"
+        PianoHouse p = Built.withLoad(13, 6, 3);
+        int wall = p.thing(false);
+        for (int x : new int[] {0, 4, 7, 11}) {
+            p.fill(wall, x, 0, 2, 1);
+            p.fill(wall, x, 5, 2, 1);
+        }
+        for (int x : new int[] {0, 5, 7, 12}) {
+            p.fill(wall, x, 0, 1, 2);
+            p.fill(wall, x, 4, 1, 2);
+        }
+        p.fill(wall, 6, 0, 1, 6);
+        is("the hole", p.clear(wall, 6, 2), 1);
+        is("may be turned in the first room", p.turning(3, 3), 1);
+        is("may be turned in the second room", p.turning(10, 3), 1);
+        Built.ends(p, 3, 3, 10, 3);
+        isWay("no turn, nine steps", p, "300002000");
+        p.end(true, 10, 3, 2);
+        isWay("two turns, nine steps", p, "440000000");
+        p.end(true, 10, 3, 3);
+        isWay("one turn: from the way without one, not from the other, which 4 would lead on", p, "3000020005");
+        is("one turn", p.count(0), 1);
+    }
+
     // ---- 27
 
     private static void stepOfTheLatestWay() { // "of the latest way() that was not STATE; NONE: none such, none"
@@ -309,6 +340,73 @@ public final class WayEdgesTest {
         is("way: not whole", p.way(), STATE);
         is("no step still", p.step(0), NONE);
         is("no slides still", p.count(1), NONE);
+    }
+
+    private static void stepStaysThroughOtherCalls() { // "of the latest way()"
+        PianoHouse p = Built.withLoad(3, 3, 1);
+        Built.wall(p, true, 1, 0, 1, 1);
+        Built.ends(p, 0, 0, 0, 2);
+        p.way();
+        Built.ends(p, 2, 2, 2, 0);
+        leavesTheWay(p, "22");
+        p.end(true, 1, 0, 0);
+        is("no way", p.way(), NONE);
+        Built.ends(p, 2, 2, 2, 0);
+        leavesTheWay(p, "");
+        is("there is a way now", p.way(), 2);
+        is("it is told", p.step(0), 3);
+    }
+
+    /** All calls but way(), the ends being others than those of the latest way. */
+    private static void leavesTheWay(PianoHouse p, String way) {
+        tellsTheWay("end", p, way);
+        p.reached();
+        tellsTheWay("reached", p, way);
+        p.reaches(2, 1, 0);
+        tellsTheWay("reaches", p, way);
+        p.held();
+        tellsTheWay("held", p, way);
+        p.doors();
+        tellsTheWay("doors", p, way);
+        p.narrow(9);
+        tellsTheWay("narrow", p, way);
+        Built.drafted(p, "33");
+        tellsTheWay("draft", p, way);
+        p.check();
+        tellsTheWay("check", p, way);
+        p.pieces(0);
+        p.piece(2, 1, 0);
+        p.area(0, 0, 2);
+        p.slide(2, 2, 0, 3);
+        tellsTheWay("pieces, piece, area, slide", p, way);
+        p.free(2, 2, 0);
+        p.turning(2, 2);
+        p.kind(2, 2, 0);
+        p.steps(2, 2, 0, 1);
+        tellsTheWay("free, turning, kind, steps", p, way);
+        p.out(0, true);
+        p.thing(false);
+        p.fill(1, 0, 0, 1, 3);
+        p.clear(1, 0, 0);
+        tellsTheWay("out, thing, fill, clear", p, way);
+        for (int i = 0; i < 4; i++) p.undo();
+        tellsTheWay("undo", p, way);
+        p.rows(2);
+        p.row(1, 1);
+        p.copy(1, 0, 1);
+        p.tear(1);
+        p.hold(0, 0);
+        tellsTheWay("rows, row, copy, tear, hold", p, way);
+        p.digest();
+        tellsTheWay("digest", p, way);
+    }
+
+    private static void tellsTheWay(String behind, PianoHouse p, String way) {
+        int length = way.length();
+        is("behind " + behind + ": turns", p.count(0), length == 0 ? NONE : 0);
+        is("behind " + behind + ": slides", p.count(1), length == 0 ? NONE : 1);
+        for (int i = 0; i < length; i++) is("behind " + behind + ": step " + i, p.step(i), way.charAt(i) - '0');
+        is("behind " + behind + ": no more steps", p.step(length), NONE);
     }
 
     private static void stepOfFirstAndLast() {

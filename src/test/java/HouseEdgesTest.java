@@ -176,6 +176,8 @@ public final class HouseEdgesTest {
         is("nothing to undo behind twenty", p.undo(), STATE);
         p.thing(false);
         is("the first one behind it", p.undo(), 0);
+        is("no things then", p.many(2), 0);
+        is("nor squares of any", p.open(0, 0), 1);
         is("not back into the house of before", p.undo(), STATE);
         is("W is that of the latest house", p.many(0), 1);
     }

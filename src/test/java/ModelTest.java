@@ -46,7 +46,7 @@ public final class ModelTest {
             int bits = 1 + random.nextInt(seed % 8 == 0 ? 63 : 3);
             if (random.nextInt(40) > 0) answer("row " + j + " " + bits, house.row(j, bits), model.row(j, bits));
         }
-        int hx = random.nextInt(3), hy = random.nextInt(3);
+        int far = seed % 5 == 0 ? 7 : 3, hx = random.nextInt(far), hy = random.nextInt(far);
         answer("hold " + hx + " " + hy, house.hold(hx, hy), model.hold(hx, hy));
         for (int i = between(0, 5); i > 0; i--) wall();
         ends();

@@ -21,6 +21,7 @@ public final class WayEdgesTest {
         wayTurnsOnFromTheLastPosition();
         wayOfTheLeastLastStep();
         wayIsNoOtherOfAsManySteps();
+        wayTurnsWhereItIsShortest();
         stepOfTheLatestWay();
         stepStaysThroughOtherCalls();
         stepOfFirstAndLast();
@@ -28,10 +29,12 @@ public final class WayEdgesTest {
         countWithoutWay();
         reachedFromNoneToAll();
         reachesWhatAWayLeadsTo();
+        reachesAlongAndUpApart();
         heldByNoneToAll();
         heldByOneMoreStep();
         heldByWhatATurnNeeds();
         heldByEachSquareOfATurn();
+        heldAlongAndUpApart();
         heldWithoutBeginningOrWithWay();
         doorsFromNoneToSix();
         doorsNotWithAll();
@@ -311,6 +314,23 @@ public final class WayEdgesTest {
         is("one turn", p.count(0), 1);
     }
 
+    /** A wall with a low hole that a load of two squares passes lying, and a high one, farther, also upright. */
+    private static void wayTurnsWhereItIsShortest() { // "of these fewest STEPS"
+        PianoHouse p = Built.withLoad(13, 9, 3);
+        int wall = Built.wall(p, false, 6, 0, 1, 7);
+        p.clear(wall, 6, 2);
+        p.end(false, 3, 3, 0);
+        p.end(true, 10, 3, 1);
+        isWay("lying through the low hole, turned behind it", p, "3000020004");
+        p.fill(wall, 6, 2, 1, 1);
+        is("round by the high hole", p.way(), 16);
+        is("turned once, too", p.count(0), 1);
+        p.end(false, 10, 3, 1);
+        p.end(true, 3, 3, 0);
+        p.clear(wall, 6, 2);
+        isWay("turned ahead of the low hole", p, "5311111121");
+    }
+
     // ---- 27
 
     private static void stepOfTheLatestWay() { // "of the latest way() that was not STATE; NONE: none such, none"
@@ -514,6 +534,23 @@ public final class WayEdgesTest {
         is("nor any", p.reaches(0, 0, 0), 0);
     }
 
+    /** A room of 4 by 4 beside a wall, once along the house and once up: one place to turn at. */
+    private static void reachesAlongAndUpApart() { // "to a PLACE in a POSITION"
+        PianoHouse wide = Built.withLoad(9, 4, 1), tall = Built.withLoad(4, 9, 1);
+        Built.wall(wide, false, 4, 0, 1, 4);
+        Built.wall(tall, false, 0, 4, 4, 1);
+        for (int far = 0; far <= 9; far++) {
+            for (int side = 0; side <= 4; side++) {
+                String place = far + " far, " + side + " aside";
+                int as = far < 4 && side < 4 ? 1 : 0, turned = far > 0 && far < 5 && side > 0 ? 1 : 0;
+                is("wide, " + place, wide.reaches(far, side, 0), as);
+                is("tall, " + place, tall.reaches(side, far, 0), as);
+                is("wide, turned by a half, " + place, wide.reaches(far, side, 2), turned);
+                is("tall, turned by a half, " + place, tall.reaches(side, far, 2), turned);
+            }
+        }
+    }
+
     // ---- 31
 
     private static void heldByNoneToAll() { // "as bits of THINGS (0 also if ..)"
@@ -596,6 +633,35 @@ public final class WayEdgesTest {
                 p.fill(1, x, y, 1, 1);
                 is("a door at " + x + ", " + y, p.held(), on ? 0 : dx * dx + dy * dy < 2 ? 3 : 1);
                 p.undo();
+            }
+        }
+    }
+
+    /** A wall of five things, one a square, across a house, once along it and once up, near and far. */
+    private static void heldAlongAndUpApart() {
+        for (int at = 2; at < 12; at++) {
+            PianoHouse wide = Built.withLoad(13, 5, 1), tall = Built.withLoad(5, 13, 1);
+            for (int side = 0; side < 5; side++) {
+                Built.wall(wide, false, at, side, 1, 1);
+                Built.wall(tall, false, side, at, 1, 1);
+            }
+            wide.end(true, 12, 0, 0);
+            tall.end(true, 0, 12, 0);
+            is("wide, the wall at " + at, wide.held(), 31);
+            is("tall, the wall at " + at, tall.held(), 31);
+            for (int side = 0; side < 5; side++) {
+                wide.clear(side, at, side);
+                tall.clear(side, side, at);
+                wide.fill(side, at + 1, side, 1, 1);
+                tall.fill(side, side, at + 1, 1, 1);
+                wide.end(true, 13, 0, 0);
+                tall.end(true, 0, 13, 0);
+                is("wide, in the gap at " + at + ", " + side, wide.held(), 31);
+                is("tall, in the gap at " + at + ", " + side, tall.held(), 31);
+                for (int i = 0; i < 2; i++) {
+                    wide.undo();
+                    tall.undo();
+                }
             }
         }
     }
